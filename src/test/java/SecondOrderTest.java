@@ -17,6 +17,7 @@ public final class SecondOrderTest {
         deleteMovesARoot();
         deletedBehindAllByIt();
         valueFarBelow();
+        otherTypesDoNotCount();
         uniqueByNumbersStill();
         check.end();
     }
@@ -258,6 +259,25 @@ public final class SecondOrderTest {
         x.insert(6);
         x.clearPath();
         check.order("other types below are not looked at", x, 2, 3, 4, 5, 1, 6);
+    }
+
+    private static void otherTypesDoNotCount() {
+        SegmentTrees x = new SegmentTrees();
+        x.type(0, NONE, 1, 0, false, true);
+        x.type(1, 0, 1, 0, false, true);
+        x.type(2, 0, 1, 0, false, true);
+        x.second(2, 0);
+        put(x, 0, 1, 0);
+        put(x, 0, 2, 0);
+        x.path(0, 0, 1, 1);
+        put(x, 2, 5, 0);
+        x.clearPath();
+        x.path(0, 0, 1, 2);
+        put(x, 1, -5, 0);
+        put(x, 2, 6, 0);
+        x.clearPath();
+        x.bySecond(true);
+        check.order("type 1 has the least word", x, 1, 3, 2, 4, 5);
     }
 
     private static void uniqueByNumbersStill() {
